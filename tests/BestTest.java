@@ -9,6 +9,7 @@ public final class BestTest {
         promise16StandsAgainstRun();
         promise17Go();
         promise17GoOfLost();
+        promise17GoOfAll();
         promise18Worst();
         promise19Mean();
         Due.ends();
@@ -224,8 +225,22 @@ public final class BestTest {
         Due.is("17 three pump 9", y.go(2, 0), 7);
         y.set(2, 0, 84);
         Due.is("17 four pump 16", y.go(2, 0), 15);
+        Due.is("17 four", y.go(2, 1), 4);
         y.set(2, 0, 85);
         Due.is("17 DOWN on the first DAY", y.go(2, 0), Due.NONE);
+    }
+
+    private static void promise17GoOfAll() {
+        WhoBuiltSails x = new WhoBuiltSails();
+        for (int i = 0; i < 5; i++) {
+            x.wright(5, 1, 0);
+        }
+        // 15 a DAY come in, 5 are PUMPED, four times ahead of the fifth.
+        x.set(2, 0, 44);
+        Due.is("17 all must go", x.go(5, 0), 31);
+        Due.is("17 all", x.go(5, 1), 5);
+        x.set(2, 0, 45);
+        Due.is("17 all aren't enough", x.go(5, 0), Due.NONE);
     }
 
     private static void promise18Worst() {

@@ -56,6 +56,8 @@ public final class HostTest {
         x.sheet(0, 2, 1);
         x.sheet(0, 2, 3);
         item(x, 0, 2, 2, 0);
+        Due.is("27 the first item is 0, too", x.gang(0, 2, 0, 1), 1);
+        Due.is("27 KIND 0", x.told(0, 6), 0);
     }
 
     private static void promise28Cell() {

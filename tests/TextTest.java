@@ -8,6 +8,8 @@ public final class TextTest {
         promise7Tokens();
         promise7Faults();
         promise7Open();
+        promise7AheadOfIt();
+        promise7AtTheEndOfTheTape();
         promise8Force();
         Due.ends();
     }
@@ -84,6 +86,8 @@ public final class TextTest {
         value("(1<2)+(2<3)", 2);
         value("5 and 7", 1);
         value("5 and 0", 0);
+        value("1 and 5", 1);
+        value("0 and 5", 0);
         value("0 or 0", 0);
         value("0 or 9", 1);
         value("-3 or 0", 1);
@@ -163,6 +167,7 @@ public final class TextTest {
         fault("makes 1;mends 1;pumps 1; ;", 25);
         fault("makes 1;mends 1;pumps 1; \t", 25);
         fault("makes 1;mends 1;pumps 1;makes 1;", 24);
+        fault("makes 1;mends 1;pumps 1;5", 24);
         fault("makes1;", 7);
         fault("makesx 1;", 0);
         fault("makes skil;", 6);
@@ -223,6 +228,39 @@ public final class TextTest {
         fault("makes not not not not not 1 < -1;", 30);
         fault("makes ---(-1) + -----(1);", 21);
         fault("makes (((((1)))));mends ((((((", 29);
+    }
+
+    /** Nothing of what was read ahead is left: neither what was open nor bytes behind the size. */
+    private static void promise7AheadOfIt() {
+        WhoBuiltSails x = new WhoBuiltSails();
+        Due.is("7 six are open", Due.text(x, "makes ((((((1))))));mends 1;pumps 1;"), -111);
+        Due.is("7 five are open then", Due.text(x, "makes (((((1)))));mends 1;pumps 1;"), 1);
+        Due.is("7 a long NUMBER", Due.text(x, "makes 12345;"), -106);
+        Due.is("7 a shorter one", Due.text(x, "makes 123"), -109);
+        Due.is("7 a long WORD", Due.text(x, "makes numbers;"), -106);
+        Due.is("7 a shorter one", Due.text(x, "makes number"), -112);
+        Due.is("7 a text", Due.text(x, "makes 1;mends 1;pumps 1;;"), -124);
+        Due.is("7 a byte less", Due.text(x, "makes 1;mends 1;pumps 1;"), 2);
+    }
+
+    private static void promise7AtTheEndOfTheTape() {
+        String ahead = "makes 1;mends 1;pumps" + " ".repeat(130);
+        fault(ahead + "    skill", 160);
+        fault(ahead + "    numbe", 155);
+        fault(ahead + "   -12345", 155);
+        fault(ahead + "     1234", 160);
+        fault(ahead + "        (", 160);
+        fault(ahead + "         ", 160);
+        fault(ahead + "       1 ;;", 160);
+        // Each of these makes more steps than it has bytes.
+        String minuses = "makes 1;mends 1;pumps 0" + "--1".repeat(44) + "-3 ;";
+        Due.is("7 160 bytes", minuses.length(), 159);
+        WhoBuiltSails x = Due.under(minuses);
+        x.wright(0, 0, 0);
+        Due.is("7 44 less 3", x.told(0, 9), 41);
+        WhoBuiltSails y = Due.under("makes 1;mends 1;pumps 0" + "+-1+1".repeat(26) + "+7;");
+        y.wright(0, 0, 0);
+        Due.is("7 26 of -1 and 1, and 7", y.told(0, 9), 7);
     }
 
     private static void promise8Force() {

@@ -10,6 +10,7 @@ public final class ToldTest {
         promise22Drawn();
         promise23Chance();
         promise24And25Image();
+        promise25NewOnes();
         promise25BackRefuses();
         promise26Count();
         Due.ends();
@@ -73,6 +74,13 @@ public final class ToldTest {
         // By NUMBER 5 ten a DAY are PUMPED, so that 17 must come in: 170 by SEA 23, 180 by 24.
         Due.is("20 SEAS", x.tells(1, 0, 5), 1);
         Due.is("20 the least SEA", x.tells(1, 0, 6), 23);
+        x.force(1);
+        x.set(2, 0, 100 - 15 - 1);
+        Due.row(x, 1, 0, 0);
+        Due.is("20 99 alone PUMPS it dry", x.tells(1, 0, 3), 1);
+        Due.is("20 99 is the least", x.tells(1, 0, 4), 99);
+        x.set(2, 0, 50);
+        x.force(2);
         Due.row(x, 1, 0);
         Due.is("20 nothing told: all KINDS", x.tells(1, 0, 1), 63);
         Due.is("20 nothing told: all TEXTS", x.tells(1, 0, 7), 15);
@@ -248,20 +256,25 @@ public final class ToldTest {
         for (int part = 0; part < 9; part++) {
             x.set(3, part, 99);
         }
-        x.set(2, 0, 71);
-        // Only 9 leaks: a half of a SEA, of which a tenth comes in.
+        x.set(2, 0, 80);
+        // Only 9 leaks: a half of a SEA, of which a tenth comes in, some 20 in 10 DAYS.
+        int many = 0;
+        int fewer = 0;
         for (int seed : new int[] {0, 5, -9, Integer.MAX_VALUE - 2}) {
             for (int m = 1; m <= 20; m++) {
                 int downs = 0;
                 for (int i = 0; i < m; i++) {
                     downs += x.drawn(seed + i, 10) >= 100 ? 1 : 0;
                 }
+                many += downs;
+                fewer += m - downs;
                 long above = x.chance(seed, m, 0);
                 long below = x.chance(seed, m, 1);
                 Due.is("23 of " + m, above * m, downs * below);
                 Due.is("23 in lowest terms", gcd(above, below), 1);
             }
         }
+        Due.is("23 she was DOWN by many and by many not", many > 100 && fewer > 100);
         x.set(2, 0, 0);
         Due.is("23 none: 0", x.chance(3, 6, 0), 0);
         Due.is("23 none: of 1", x.chance(3, 6, 1), 1);
@@ -344,6 +357,21 @@ public final class ToldTest {
         Due.is("24 anew", x.image(), 3);
         x.set(2, 0, 1);
         Due.is("25 anew", x.back(), 3);
+    }
+
+    /** One who comes where another one was ABOARD, whom the image didn't keep, is ASHORE. */
+    private static void promise25NewOnes() {
+        WhoBuiltSails x = new WhoBuiltSails();
+        x.image();
+        x.wright(5, 9, 99);
+        x.builds(0, 0);
+        x.bound();
+        x.back();
+        Due.is("25 nobody made it", x.told(0, 10), Due.NONE);
+        Due.is("25 comes", x.wright(0, 1, 2), 0);
+        Due.is("25 ASHORE", x.told(0, 7), 0);
+        Due.is("25 of her own KIND", x.told(0, 6), 0);
+        Due.is("25 made nothing", x.told(0, 8), 0);
     }
 
     private static void promise25BackRefuses() {

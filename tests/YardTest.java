@@ -144,8 +144,11 @@ public final class YardTest {
         for (int part = 0; part < 10; part++) {
             x.set(3, part, 97);
         }
+        x.set(3, 4, 98);
         x.day();
         Due.is("12 99 at most", x.told(2, 3), 99);
+        x.day();
+        Due.is("12 98, too, is mended", x.told(4, 3), 99);
         Due.is("12 nobody's", x.told(0, 3), 97);
         WhoBuiltSails y = new WhoBuiltSails();
         y.wright(0, 0, 0);

@@ -822,25 +822,20 @@ public final class WhoBuiltSails {
         void passDay() {
             if (!isDown()) {
                 water = Math.min(FULL_OF_WATER, water + allLeak() / 10);
+                for (int one = 0; one < wrights && !isDown(); one++) {
+                    if (place[one] == ABOARD) {
+                        water = Math.max(0, water - pumps(one));
+                        int part = leastSound(one);
+                        if (part != NONE) {
+                            sound[part] = Math.min(MOST, sound[part] + mends(one, part));
+                        }
+                    }
+                }
                 if (isDown()) {
                     allMove(ABOARD, LOST);
-                } else {
-                    allWork();
                 }
             }
             day++;
-        }
-
-        private void allWork() {
-            for (int one = 0; one < wrights; one++) {
-                if (place[one] == ABOARD) {
-                    water = Math.max(0, water - pumps(one));
-                    int part = leastSound(one);
-                    if (part != NONE) {
-                        sound[part] = Math.min(MOST, sound[part] + mends(one, part));
-                    }
-                }
-            }
         }
 
         void pass(int n) {
