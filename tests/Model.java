@@ -58,7 +58,7 @@ final class Model {
 
         long v(int of, int part) {
             int[] names = {skill, part < 0 ? 0 : ship.sound[part], number, ship.day, ship.water, Math.max(part, 0)};
-            return ship.rule.es.get(of).applyAsInt(names);
+            return bounded(ship.rule.es.get(of).applyAsInt(names));
         }
 
         long makes(int part) {

@@ -10,7 +10,12 @@ public final class ShipTest {
         promise5AsksMakes();
         promise5AsksMends();
         promise5Refuses();
-        boundIsLaidOnce();
+        boundOfWhatATextTellsOfMakes();
+        boundOfWhatATextTellsOfMends();
+        boundOfWhatATextTellsOfPumps();
+        boundOfAKnotsText();
+        boundOfWhatAKindMakes();
+        boundIsLaidOnWhatComesOut();
         Due.ends();
     }
 
@@ -226,27 +231,120 @@ public final class ShipTest {
         }
     }
 
-    /** What a KIND makes its own of is not bounded yet. */
-    private static void boundIsLaidOnce() {
-        WhoBuiltSails x = Due.under("makes skill*3-number*20; mends skill-40; pumps skill-40;");
+    private static void boundOfWhatATextTellsOfMakes() {
+        WhoBuiltSails x = Due.under("makes skill*3-number*20; mends 1; pumps 0;");
         x.wright(2, 0, 50);
         x.wright(1, 9, 58);
         x.wright(4, 1, 1);
-        x.wright(2, 0, 37);
-        Due.is("5 half of 150", x.asks(0, 1, 0), 75);
-        Due.is("5 9 more than -6", x.asks(1, 0, 0), 3);
+        x.wright(3, 0, 90);
+        Due.is("5 half of 150 that is 99", x.asks(0, 1, 0), 49);
+        Due.is("5 9 more than -6 that is 0", x.asks(1, 0, 0), 9);
         Due.is("5 -6 as it is", x.asks(1, 1, 0), 0);
-        Due.is("5 10 more than half of -17", x.asks(2, 1, 0), 2);
-        x.builds(1, 0);
-        x.builds(0, 1);
+        Due.is("5 10 more than half of -17 that is 0", x.asks(2, 1, 0), 10);
+        Due.is("9 builds tells the same", x.builds(0, 1), 49);
+        Due.is("9 SOUND is the same", x.told(1, 3), 49);
+        Due.is("5 with another one, 150 is 99", x.asks(0, 3, 0), 99);
+        x.set(4, 3, 9);
+        x.set(5, 3, 50);
+        Due.is("9 a KNOT's -30 that is 0, and 9", x.builds(3, 4), 9);
+        Due.is("9 a KNOT's -30 that is 0, and 1", x.builds(3, 5), 1);
+        Due.is("9 a KNOT's -30 that is 0, and 9 and 2", x.builds(3, 6), 11);
+    }
+
+    private static void boundOfWhatATextTellsOfMends() {
+        WhoBuiltSails x = Due.under("makes 1; mends skill-40; pumps 0;");
+        x.wright(0, 0, 39);
+        x.wright(1, 0, 39);
+        x.wright(3, 0, 30);
+        x.wright(4, 0, 0);
+        int[] under = {0, 0, 1, 0};
+        for (int one = 0; one < 4; one++) {
+            Due.is("5 MENDS below 0 under", x.asks(one, 2, 1), under[one]);
+            Due.is("5 MENDS below 0 above", x.asks(one, 3, 1), under[one]);
+        }
         x.builds(2, 2);
-        x.builds(3, 3);
         x.bound();
-        Due.is("4 -3 and three others", x.told(3, 9), 0);
-        x.set(5, 3, 38);
-        Due.is("4 -2 and three others", x.told(3, 9), 1);
-        x.set(5, 1, 90);
-        Due.is("5 twice 50", x.asks(1, 0, 1), 99);
-        Due.is("5 twice 50 above", x.asks(1, 1, 1), 50);
+        Due.is("12 a KNOT mends by 1, not by -19", x.run(1, 12), 2);
+        Due.is("12 two DAYS", x.run(2, 12), 3);
+    }
+
+    private static void boundOfWhatATextTellsOfPumps() {
+        WhoBuiltSails x = Due.under("makes 1; mends 0; pumps skill-40;");
+        x.wright(2, 0, 37);
+        x.wright(4, 0, 0);
+        x.wright(1, 0, 39);
+        x.wright(3, 0, 0);
+        for (int one = 0; one < 4; one++) {
+            x.builds(one, one);
+        }
+        x.bound();
+        x.set(2, 0, 30);
+        int[] due = {3, 3, 0, 0};
+        for (int one = 0; one < 4; one++) {
+            Due.is("4 PUMPS below 0 of " + one, x.told(one, 9), due[one]);
+        }
+        WhoBuiltSails y = Due.under("makes 1; mends 0; pumps skill*3;");
+        y.wright(1, 0, 50);
+        y.wright(3, 0, 34);
+        y.wright(0, 0, 33);
+        y.wright(0, 0, 34);
+        Due.is("4 half of 150 that is 99", y.told(0, 9), 49);
+        Due.is("4 half of 102 that is 99", y.told(1, 9), 49);
+        Due.is("4 just 99", y.told(2, 9), 99);
+        Due.is("4 102 as it is", y.told(3, 9), 99);
+    }
+
+    /** Issue 5, and the same asked of what mends and pumps tell. */
+    private static void boundOfAKnotsText() {
+        WhoBuiltSails x = Due.under("makes skill-(part)*5;mends 0-5*part;pumps 0-300;");
+        x.wright(3, 0, 0);
+        x.builds(0, 0);
+        Due.is("5 a KNOT's -5 that is 0, and 1", x.asks(0, 1, 0), 1);
+        Due.is("5 a KNOT mends -5 that is 0, and 1", x.asks(0, 1, 1), 1);
+        x.wright(2, 0, 0);
+        x.bound();
+        Due.is("4 a BROTHER's -300 that is 0, and 1", x.told(1, 9), 1);
+    }
+
+    /** What a KIND adds to v is bounded, too. */
+    private static void boundOfWhatAKindMakes() {
+        WhoBuiltSails x = Due.under("makes 98; mends 98; pumps 98;");
+        for (int kind = 0; kind < 5; kind++) {
+            x.wright(kind, 9, 0);
+            x.builds(kind, kind + 1);
+        }
+        for (int kind = 0; kind < 5; kind++) {
+            x.builds(kind, kind + 5);
+        }
+        x.bound();
+        x.set(2, 0, 30);
+        int[] makes = {98, 99, 98, 99, 99};
+        int[] mends = {98, 99, 98, 99, 98};
+        int[] pumps = {98, 49, 99, 49, 99};
+        x.set(3, 0, 0);
+        for (int one = 0; one < 5; one++) {
+            Due.is("5 the bound of what KIND " + one + " MAKES", x.asks(one, 0, 0), makes[one]);
+            Due.is("5 the bound of what KIND " + one + " MENDS", x.asks(one, 0, 1), mends[one]);
+            Due.is("4 the bound of what KIND " + one + " PUMPS", x.told(one, 9), pumps[one]);
+        }
+    }
+
+    /** The bound is not laid on what an E is put together from, nor between a KIND and the one it is under. */
+    private static void boundIsLaidOnWhatComesOut() {
+        WhoBuiltSails x = Due.under("makes skill*3-200+part; mends 0-skill+150; pumps skill*0-5+number*30;");
+        x.wright(0, 3, 99);
+        x.wright(1, 1, 99);
+        x.wright(3, 0, 50);
+        Due.is("5 297 less 200", x.asks(0, 0, 0), 97);
+        Due.is("5 -99 and 150", x.asks(0, 0, 1), 51);
+        Due.is("5 twice 51", x.asks(1, 0, 1), 99);
+        Due.is("5 51 above", x.asks(1, 1, 1), 51);
+        Due.is("5 a KNOT's twice 99 and 1", x.asks(2, 0, 1), 99);
+        Due.is("4 -5 and 90", x.told(0, 9), 85);
+        Due.is("4 half of -5 and 30", x.told(1, 9), 12);
+        Due.is("4 half of -5 that is 0", x.told(2, 9), 0);
+        Due.is("5 one more than 97", x.asks(1, 0, 0), 98);
+        x.set(4, 1, 9);
+        Due.is("5 9 more than 97", x.asks(1, 0, 0), 99);
     }
 }

@@ -749,8 +749,8 @@ public final class WhoBuiltSails {
             return all;
         }
 
-        /** What THE RULE tells; a long, for what a KIND makes of it is not to wrap. */
-        private long telling(int of, int one, int part) {
+        /** What THE RULE tells, bounded ahead of what a KIND makes of it (and that is bounded anew). */
+        private int telling(int of, int one, int part) {
             boolean isOfPart = isPart(part);
             named[0] = skill[one];
             named[1] = isOfPart ? sound[part] : 0;
@@ -758,14 +758,14 @@ public final class WhoBuiltSails {
             named[3] = day;
             named[4] = water;
             named[5] = isOfPart ? part : 0;
-            return rule.value(of, named);
+            return bounded(rule.value(of, named));
         }
 
         int makes(int one, int part) {
-            long wrightly = telling(OF_MAKES, one, part);
+            int wrightly = telling(OF_MAKES, one, part);
             int others = Integer.bitCount(madeBy(one) & ~(1 << part));
-            long caulkerly = isUnder(part) ? wrightly + number[one] : wrightly;
-            long brotherly = others == 0 ? wrightly / 2 : wrightly;
+            int caulkerly = isUnder(part) ? wrightly + number[one] : wrightly;
+            int brotherly = others == 0 ? wrightly / 2 : wrightly;
             switch (kind[one]) {
                 case CAULKER: return bounded(caulkerly);
                 case BROTHER: return bounded(brotherly);
@@ -777,8 +777,8 @@ public final class WhoBuiltSails {
         }
 
         int mends(int one, int part) {
-            long wrightly = telling(OF_MENDS, one, part);
-            long caulkerly = isUnder(part) ? wrightly * 2 : wrightly;
+            int wrightly = telling(OF_MENDS, one, part);
+            int caulkerly = isUnder(part) ? wrightly * 2 : wrightly;
             switch (kind[one]) {
                 case CAULKER: return bounded(caulkerly);
                 case KNOT: return bounded(caulkerly + 1);
@@ -789,8 +789,8 @@ public final class WhoBuiltSails {
         }
 
         int pumps(int one) {
-            long wrightly = telling(OF_PUMPS, one, NONE);
-            long brotherly = wrightly + Integer.bitCount(who(ABOARD) & ~(1 << one));
+            int wrightly = telling(OF_PUMPS, one, NONE);
+            int brotherly = wrightly + Integer.bitCount(who(ABOARD) & ~(1 << one));
             switch (kind[one]) {
                 case CAULKER:
                 case KNOT: return bounded(wrightly / 2);
@@ -801,9 +801,9 @@ public final class WhoBuiltSails {
             }
         }
 
-        /** Laid on what comes out alone: what a KIND makes its own of is not bounded yet. */
-        private static int bounded(long v) {
-            return (int) Math.max(0, Math.min(MOST, v));
+        /** Laid on what a TEXT tells and on what a KIND makes of it, never on what either is put together from. */
+        private static int bounded(int v) {
+            return Math.max(0, Math.min(MOST, v));
         }
 
         void build(int one, int part) {
