@@ -12,6 +12,7 @@ public final class ModelTest {
     private WhoBuiltSails x;
     private Model m;
     private boolean isTame;
+    private boolean isAtEdges;
 
     public static void main(String[] args) {
         for (int run = 0; run < RUNS; run++) {
@@ -25,8 +26,12 @@ public final class ModelTest {
         return (int) ((drawing >>> 33) % size);
     }
 
-    /** Mostly 0 .. most, at times just outside, or far. */
+    /** Mostly 0 .. most, at times just outside, or far; of runs at the edges just within and just outside alone. */
     private int upTo(int most) {
+        if (isAtEdges) {
+            int[] edges = {0, 0, 0, 1, most - 1, most, most, most, -1, most + 1};
+            return edges[draw(draw(3) == 0 ? edges.length : edges.length - 2)];
+        }
         int kind = isTame ? draw(200) : draw(30);
         if (kind > 2) {
             return draw(most + 1);
@@ -38,6 +43,7 @@ public final class ModelTest {
     private void run(int number) {
         drawing = number * 977L + 13;
         isTame = draw(3) != 0;
+        isAtEdges = number % 4 == 3;
         x = new WhoBuiltSails();
         m = new Model();
         StringBuilder trace = new StringBuilder();
@@ -49,7 +55,7 @@ public final class ModelTest {
             }
             i++;
             int[] a = arguments(call);
-            long got = ask(call, a);
+            long got = Calls.ask(x, CALL[call], a);
             long due = askModel(call, a);
             trace.append(CALL[call]).append(java.util.Arrays.toString(a)).append('=').append(due).append(' ');
             Due.is("run " + number + " call " + i + " " + CALL[call] + java.util.Arrays.toString(a), got, due);
@@ -165,41 +171,6 @@ public final class ModelTest {
             case "gang": return new int[] {upTo(3), upTo(2), upTo(3), upTo(5)};
             case "taken": return new int[] {upTo(4), upTo(5)};
             default: return new int[0];
-        }
-    }
-
-    private long ask(int call, int[] a) {
-        switch (CALL[call]) {
-            case "set": return x.set(a[0], a[1], a[2]);
-            case "wright": return x.wright(a[0], a[1], a[2]);
-            case "told": return x.told(a[0], a[1]);
-            case "asks": return x.asks(a[0], a[1], a[2]);
-            case "feed": return x.feed(a[0]);
-            case "text": return x.text();
-            case "force": return x.force(a[0]);
-            case "builds": return x.builds(a[0], a[1]);
-            case "bound": return x.bound();
-            case "home": return x.home();
-            case "day": return x.day();
-            case "run": return x.run(a[0], a[1]);
-            case "down": return x.down();
-            case "yard": return x.yard(a[0], a[1]);
-            case "stands": return x.stands(a[0]);
-            case "go": return x.go(a[0], a[1]);
-            case "worst": return x.worst();
-            case "mean": return x.mean(a[0]);
-            case "tells": return x.tells(a[0], a[1], a[2]);
-            case "film": return x.film(a[0], a[1]);
-            case "drawn": return x.drawn(a[0], a[1]);
-            case "chance": return x.chance(a[0], a[1], a[2]);
-            case "image": return x.image();
-            case "back": return x.back();
-            case "count": return x.count(a[0]);
-            case "sheet": return x.sheet(a[0], a[1], a[2]);
-            case "cell": return x.cell(a[0], a[1], a[2]);
-            case "copy": return x.copy(a[0], a[1], a[2], a[3], a[4]);
-            case "gang": return x.gang(a[0], a[1], a[2], a[3]);
-            default: return x.taken(a[0], a[1]);
         }
     }
 
