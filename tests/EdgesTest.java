@@ -17,6 +17,7 @@ public final class EdgesTest {
         yardOfOneToFiveAshore();
         yardOf0And20Days();
         yardOfLikeOnes();
+        yardDownTo0();
         standsFrom0To99();
         standsOf1And40Days();
         goOf0To5();
@@ -325,6 +326,29 @@ public final class EdgesTest {
     }
 
     // ---- STANDS, GO
+
+    /** WATER of 2, 1 and 0 by who builds: the least is 0, and none is better than the first that has it. */
+    private static void yardDownTo0() {
+        WhoBuiltSails x = Due.under("makes 99;mends 0;pumps number;");
+        x.wright(0, 0, 0);
+        x.wright(0, 1, 0);
+        x.wright(0, 2, 0);
+        x.wright(0, 2, 0);
+        onlyLeak(x);
+        for (int part = 0; part < 9; part++) {
+            x.builds(0, part);
+        }
+        x.set(2, 0, 2);
+        Due.is("PUMPED dry by 2", x.yard(1, 0), way(2));
+        Due.is("dry", x.yard(1, 1), 0);
+        x.set(2, 0, 3);
+        Due.is("1 is left by 2", x.yard(1, 0), way(2));
+        Due.is("1 is left", x.yard(1, 1), 1);
+        x.set(2, 0, 1);
+        Due.is("1 is enough", x.yard(1, 0), way(1));
+        x.set(2, 0, 0);
+        Due.is("dry anyway", x.yard(1, 0), way(0));
+    }
 
     private static void standsFrom0To99() {
         WhoBuiltSails x = new WhoBuiltSails();

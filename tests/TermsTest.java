@@ -539,6 +539,17 @@ public final class TermsTest {
             Due.is(key + "s", Due.text(new WhoBuiltSails(), "makes 1 " + key + "s 1;mends 1;pumps 1;"), -108);
             Due.is(key + "not", Due.text(new WhoBuiltSails(), "makes 1 " + key + "not 1;mends 1;pumps 1;"), -108);
         }
+        // Whatever stands ahead of it, what is no WORD of theirs is not taken for it.
+        for (String ahead : new String[] {"-", "--", "(", "((", "not ", "not not ", "1+", "1-", "1*", "1<", "1=", "1 or ",
+                "1 and ", "1 ", "skill ", "skill+"}) {
+            Due.is(ahead + "z", Due.text(new WhoBuiltSails(), "makes " + ahead + "z 1);mends 1;pumps 1;"),
+                -106 - ahead.length());
+            Due.is(ahead + "!", Due.text(new WhoBuiltSails(), "makes " + ahead + "! 1);mends 1;pumps 1;"),
+                -106 - ahead.length());
+            Due.is(ahead + "00000", Due.text(new WhoBuiltSails(), "makes " + ahead + "00000);mends 1;pumps 1;"),
+                -106 - ahead.length());
+        }
+        Due.is("behind ;", Due.text(new WhoBuiltSails(), "makes 1;z mends 1;pumps 1;"), -108);
         Due.is("no", Due.text(new WhoBuiltSails(), "makes no 1;mends 1;pumps 1;"), -106);
         Due.is("nots", Due.text(new WhoBuiltSails(), "makes nots 1;mends 1;pumps 1;"), -106);
     }
@@ -699,6 +710,13 @@ public final class TermsTest {
         value("5=4", 0);
         value("-1<0", 1);
         value("-1=1", 0);
+        // What isn't so is just 0, and what is so just 1.
+        for (String e : new String[] {"0 or 0", "0 and 0", "0 and 9", "9 and 0", "not 9", "4<4", "3=4"}) {
+            value("(" + e + ")*9+5", 5);
+        }
+        for (String e : new String[] {"9 or 9", "0 or 9", "9 or 0", "9 and 9", "not 0", "3<4", "4=4"}) {
+            value("(" + e + ")*9+5", 14);
+        }
     }
 
     /** A whole TEXT, cut behind each of its bytes; none of the TOKENS that are cut can stand there but NUMBERS. */
