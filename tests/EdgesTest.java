@@ -532,9 +532,16 @@ public final class EdgesTest {
     }
 
     /** PUMPS 8, half of it, 1 more (another one is ABOARD), none (WATER is less than 30) or NUMBER. */
+    /** Of whatever KIND one is. */
     private static void tellsOneKindAlone() {
+        for (int kind = 0; kind < 6; kind++) {
+            tellsOneKindOf(kind);
+        }
+    }
+
+    private static void tellsOneKindOf(int kind) {
         WhoBuiltSails x = Due.under("makes 0;mends 0;pumps 8;");
-        x.wright(0, 3, 0);
+        x.wright(kind, 3, 0);
         x.wright(5, 0, 0);
         x.builds(0, 0);
         x.builds(1, 1);
@@ -545,13 +552,13 @@ public final class EdgesTest {
         int[] kinds = {1, 1 << 1 | 1 << 3, 1 << 2, 1 << 4, 1 << 5};
         for (int i = 0; i < pumped.length; i++) {
             Due.row(x, 0, 0, 29 - pumped[i]);
-            Due.is("KINDS that PUMP " + pumped[i], x.tells(0, 0, 1), kinds[i]);
+            Due.is("KINDS that PUMP " + pumped[i] + ", being " + kind, x.tells(0, 0, 1), kinds[i]);
         }
         Due.row(x, 0, 0, 28);
         Due.is("none PUMPS 1", x.tells(0, 0, 1), 0);
         x.sheet(0, 0, 0);
         Due.is("all six", x.tells(0, 0, 1), 63);
-        Due.is("KIND stays", x.told(0, 6), 0);
+        Due.is("KIND stays", x.told(0, 6), kind);
     }
 
     private static void tellsOneNumberAlone() {

@@ -10,7 +10,9 @@ import java.util.ArrayList;
 import java.util.Arrays;
 import java.util.HashSet;
 import java.util.List;
+import java.util.Map;
 import java.util.Set;
+import java.util.TreeMap;
 import java.util.TreeSet;
 import java.util.regex.Matcher;
 import java.util.regex.Pattern;
@@ -62,6 +64,7 @@ public final class LanguageTest {
         rule11Fields();
         words(code);
         lengths(code);
+        depths(code);
         Due.ends();
     }
 
@@ -188,5 +191,83 @@ public final class LanguageTest {
                 from = -1;
             }
         }
+    }
+
+    /** Which methods each one calls, by their names: those of one name in two classes are taken for one. */
+    private static Map<String, Set<String>> callsOf(String code) {
+        Pattern declared = Pattern.compile("^(?: {4}| {8})(?! )(?!return|else)[\\w\\[\\] ]*?(\\w+)\\([\\w\\[\\], ]*\\) \\{$");
+        Map<String, List<String>> bodies = new TreeMap<>();
+        List<String> body = new ArrayList<>();
+        for (String line : code.split("\n")) {
+            Matcher matcher = declared.matcher(line);
+            if (matcher.matches() && !line.matches(" *(for|if|while|switch)\\b.*")) {
+                body = bodies.computeIfAbsent(matcher.group(1), name -> new ArrayList<>());
+            } else {
+                body.add(line);
+            }
+        }
+        Map<String, Set<String>> calls = new TreeMap<>();
+        for (String name : bodies.keySet()) {
+            Set<String> called = new TreeSet<>();
+            Matcher matcher = Pattern.compile("\\b(\\w+)\\(").matcher(String.join("\n", bodies.get(name)));
+            while (matcher.find()) {
+                if (bodies.containsKey(matcher.group(1))) {
+                    called.add(matcher.group(1));
+                }
+            }
+            calls.put(name, called);
+        }
+        return calls;
+    }
+
+    /** All that one calls, itself or by others. */
+    private static Set<String> reached(Map<String, Set<String>> calls, String from) {
+        Set<String> reached = new TreeSet<>();
+        List<String> waiting = new ArrayList<>(calls.get(from));
+        while (!waiting.isEmpty()) {
+            String name = waiting.remove(waiting.size() - 1);
+            if (reached.add(name)) {
+                waiting.addAll(calls.get(name));
+            }
+        }
+        return reached;
+    }
+
+    private static int depth(Map<String, Set<String>> calls, Set<String> recursive, String from) {
+        int deepest = 0;
+        Set<String> next = recursive.contains(from) ? new TreeSet<>() : calls.get(from);
+        if (recursive.contains(from)) {
+            // Those who call one another count as one.
+            for (String name : recursive) {
+                next.addAll(calls.get(name));
+            }
+            next.removeAll(recursive);
+        }
+        for (String name : next) {
+            deepest = Math.max(deepest, depth(calls, recursive, name));
+        }
+        return deepest + 1;
+    }
+
+    private static void depths(String code) {
+        Map<String, Set<String>> calls = callsOf(code);
+        Set<String> recursive = new TreeSet<>();
+        for (String name : calls.keySet()) {
+            if (reached(calls, name).contains(name)) {
+                recursive.add(name);
+            }
+        }
+        Due.is("rule 8: who call one another: " + recursive, recursive.equals(Set.of("readOr", "readAnd", "readNot",
+            "readCompared", "readSum", "readTerm", "readOne", "readMinus", "readBracket")));
+        Due.is("rule 8: each round goes by opens()", calls.get("readNot").contains("opens")
+            && calls.get("readMinus").contains("opens") && calls.get("readBracket").contains("opens"));
+        int deepest = 0;
+        for (String name : calls.keySet()) {
+            int depth = depth(calls, recursive, name);
+            deepest = Math.max(deepest, depth);
+            Due.is("rule 11: " + name + " goes " + depth + " deep", depth <= 8);
+        }
+        Due.is("rule 11: what goes deep was looked at: " + deepest, deepest >= 6);
+        Due.is("rule 11: so many methods were looked at: " + calls.size(), calls.size() > 80);
     }
 }

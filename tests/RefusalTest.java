@@ -58,7 +58,7 @@ public final class RefusalTest {
      * DAY 7, SEA 25, WATER 35, TEXT 1 THE RULE; four WRIGHTS, of whom 0 is LOST, 1 ABOARD, 2 and 3 ASHORE; an image
      * that is otherwise; a TEXT on THE TAPE; SHEET 0 of 9 bytes, 1 of 6 shorts, LONG of 21 ints, MISSING.
      */
-    private static WhoBuiltSails sailing() {
+    static WhoBuiltSails sailing() {
         WhoBuiltSails x = new WhoBuiltSails();
         Due.text(x, "makes skill+part;mends 2;pumps 1+number;");
         x.force(1);

@@ -8,8 +8,8 @@ import java.util.function.Supplier;
  * whatever both are asked then, they must answer alike.
  */
 final class Twins {
-    /** An object promises nothing beyond its 512th call; what makes the twins takes 240 at most. */
-    private static final int CALLS = 270;
+    /** An object promises nothing beyond its 512th call; what makes the twins takes 200 at most. */
+    private static final int CALLS = 300;
 
     private final WhoBuiltSails x;
     private final List<Long> answers = new ArrayList<>();
